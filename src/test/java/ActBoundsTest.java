@@ -17,6 +17,7 @@ public final class ActBoundsTest {
         putThatIsSo();
         refusedPut();
         placesOfAdd();
+        theOthersStay();
         sixAtMost();
         refusedAdd();
         badAheadOfFull();
@@ -191,6 +192,34 @@ public final class ActBoundsTest {
         TypedBlocks x = Due.laid(BLOCK + BLOCK);
         for (int l : FAR) {
             DUE.due("add(" + l + ", 0)", x.add(l, 0, 13, 0, 0, 0), l == 0 || l == 1 ? 1 : BAD);
+        }
+    }
+
+    /** Six instructions no part of which is as in the next one. */
+    private static final int[][] SIX = {{4, 3, 0, 1}, {5, 0, 1, 2}, {4, 1, 2, 3}, {5, 2, 3, 0}, {4, 3, 2, 1}, {5, 1, 0, 2}};
+
+    private static String told(int many) {
+        StringBuilder text = new StringBuilder(BLOCK);
+        for (int i = 0; i < many; i++) {
+            text.append('i').append(SIX[i][0]).append(',').append(SIX[i][1]).append(',').append(SIX[i][2]).append(',')
+                .append(SIX[i][3]).append(';');
+        }
+        return text.toString();
+    }
+
+    private static void theOthersStay() {
+        DUE.part("10, 11: PUT IN, TAKEN OUT (the others stay as they are, in their order)");
+        for (int k = 0; k <= 5; k++) {
+            TypedBlocks x = Due.laid(told(5));
+            DUE.due("add(0, " + k + ")", x.add(0, k, 1, 2, 99, 0), 6);
+            for (int i = 0; i < 6; i++) {
+                codeIs(x, 0, i, i == k ? new int[] {1, 2, 99, 0} : SIX[i < k ? i : i - 1]);
+            }
+            TypedBlocks y = Due.laid(told(6));
+            DUE.due("cut(0, " + k + ")", y.cut(0, k), 5);
+            for (int i = 0; i < 5; i++) {
+                codeIs(y, 0, i, SIX[i < k ? i : i + 1]);
+            }
         }
     }
 

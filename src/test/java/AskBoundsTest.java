@@ -30,6 +30,7 @@ public final class AskBoundsTest {
         mendsNone();
         mendsFirstAndLast();
         mendsAsMayBeTold();
+        askedAgainBehindAnAct();
         askingChangesNothing();
         DUE.finish();
     }
@@ -236,6 +237,15 @@ public final class AskBoundsTest {
         DUE.due("reached() of itself", Due.laid(BLOCK + "i9,0,0,0;").reached(), 1);
         DUE.due("reached() of none else", Due.laid(BLOCK.repeat(4)).reached(), 1);
         DUE.due("reached() not to 0", Due.laid(BLOCK + (BLOCK + "i9,0,0,0;").repeat(3)).reached(), 1);
+        DUE.due("reached() not by those that are not", Due.laid(BLOCK + "i9,2,0,0;" + BLOCK + "i9,3,0,0;" + BLOCK + BLOCK)
+            .reached(), 5);
+        // What is taken out, the last or all, is no more in the block.
+        TypedBlocks cut = Due.laid(BLOCK + "i9,1,0,0;i9,2,0,0;" + BLOCK + BLOCK);
+        DUE.due("reached()", cut.reached(), 7);
+        cut.cut(0, 1);
+        DUE.due("reached() behind a cut", cut.reached(), 3);
+        cut.cut(0, 0);
+        DUE.due("reached() behind another one", cut.reached(), 1);
         int[][] chains = {{1, 2, 3}, {1, 3, 2}, {2, 1, 3}, {2, 3, 1}, {3, 1, 2}, {3, 2, 1}};
         for (int[] chain : chains) {
             for (int length = 0; length <= 3; length++) {
@@ -359,6 +369,42 @@ public final class AskBoundsTest {
             // LABEL: 3 for each label, IF 0 to each.
             DUE.due("mends(0, 0) of " + labels + " labels", y.mends(0, 0), 22 + 3 * labels + labels);
         }
+    }
+
+    /** What was asked ahead of an act is not answered behind it. */
+    private static void askedAgainBehindAnAct() {
+        DUE.part("15 to 24: asked as things stand, also behind an act, undo, back, lay");
+        Twins.Call[] acts = {x -> x.put(0, 2, 0, 1, 2, 0), x -> x.cut(0, 2), x -> x.add(2, 0, 3, 0, 0, 0), x -> x.want(0, 3, 0),
+            x -> x.want(2, 3, 8), x -> x.below(2, 0), TypedBlocks::undo, TypedBlocks::back, TypedBlocks::lay};
+        Twins.Call[] questions = {x -> x.check(0), x -> x.reason(0), x -> x.check(1), x -> x.reason(2), x -> x.ahead(0, 3, 1),
+            x -> x.ahead(0, 4, 5), TypedBlocks::sure, x -> x.joins(0), x -> x.joins(1), x -> x.might(0, 3),
+            x -> x.might(2, 3), TypedBlocks::reached, x -> x.mends(0, 0), x -> x.mends(0, 1), x -> x.run(7, 200, 1),
+            x -> x.day(0, 3, 0), x -> x.count(3)};
+        for (int a = 0; a < acts.length; a++) {
+            for (int ahead = 0; ahead < questions.length; ahead++) {
+                for (int behind = 0; behind < questions.length; behind++) {
+                    TypedBlocks asked = inUse();
+                    questions[ahead].on(asked);
+                    acts[a].on(asked);
+                    TypedBlocks other = inUse();
+                    acts[a].on(other);
+                    DUE.due("question " + behind + " behind act " + a + " and question " + ahead,
+                        questions[behind].on(asked), questions[behind].on(other));
+                }
+            }
+        }
+        // Asked first of all.
+        DUE.due("reason(0)", Due.laid("l0000,,0;" + HALT).reason(0), 1);
+        DUE.due("ahead(0, 0, 0)", Due.laid("l0000,,0;" + HALT).ahead(0, 0, 0), 0);
+        DUE.due("mends(0, 1)", Due.laid("l0000,,0;" + HALT).mends(0, 1), 9 * 64);
+    }
+
+    private static TypedBlocks inUse() {
+        TypedBlocks x = Due.told("s0;l1000,,0;i13,0,0,0;");
+        x.want(1, 1, 1);
+        x.keep();
+        x.want(1, 0, 2);
+        return x;
     }
 
     private static void askingChangesNothing() {

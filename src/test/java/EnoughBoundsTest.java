@@ -11,6 +11,7 @@ public final class EnoughBoundsTest {
         anyOrTheSameOnTheStack();
         tuplesNotWhole();
         codeWhoseLabelWantsNoMore();
+        codeOfEachForEach();
         codeWithinCode();
         eachRegister();
         heightOfTheStack();
@@ -129,6 +130,29 @@ public final class EnoughBoundsTest {
             code("1111,111,0", "1111," + row(3, at, 0, 1) + ",0", false);
             code("1111," + row(3, at, 0, 1) + ",1", "1111,111,1", true);
             code("1111,111,1", "1111," + row(3, at, 0, 1) + ",1", false);
+        }
+    }
+
+    /** Label v wants code of q, and jumps to itself with code of p; each label wants another height of the stack. */
+    private static void codeOfEachForEach() {
+        DUE.part("CODE is ENOUGH for CODE: of each LABEL for each");
+        int[][] heights = {{0, 1, 2, 3}, {3, 2, 1, 0}, {2, 0, 3, 1}, {1, 3, 0, 2}};
+        for (int[] height : heights) {
+            for (int way = 0; way < 64; way++) {
+                int p = way & 3;
+                int q = way >> 2 & 3;
+                int v = way >> 4;
+                if (v != p) {
+                    StringBuilder text = new StringBuilder();
+                    for (int l = 0; l < 4; l++) {
+                        text.append('l').append(l == v ? 6 + q : 0).append("000,").append(row(height[l], -1, 0, 0))
+                            .append(",1;").append(l == v ? "i8,0," + p + ",0;i9," + v + ",0,0;" : "");
+                    }
+                    boolean enough = height[p] <= height[q];
+                    DUE.due("check(" + v + ") of " + text, Due.laid(text.toString()).check(v), enough ? NONE : 1);
+                    DUE.due("reason(" + v + ") of " + text, Due.laid(text.toString()).reason(v), enough ? NONE : 6);
+                }
+            }
         }
     }
 

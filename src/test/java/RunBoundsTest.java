@@ -23,6 +23,7 @@ public final class RunBoundsTest {
         stuckForWantOfAField();
         stuckAtAnEmptyStack();
         stuckForWantOfALabel();
+        labelOfEach();
         stuckBehindTheLast();
         looksAtNoTypes();
         overAtHalt();
@@ -150,6 +151,21 @@ public final class RunBoundsTest {
                     f == set ? 4 : 2, 0, f == set ? 3 : 2, 3);
             }
         }
+        // It has such fields as its sort has, whatever else was made or there at first.
+        for (int t = 0; t < 3; t++) {
+            for (int f = 0; f < 3; f++) {
+                boolean is = f <= 2 - t;
+                runs("s000;s00;s0;l0000,,0;i3,1,0,0;i3,2," + t + ",0;i4,2," + f + ",0;" + HALT, 3, 200, is ? OVER : STUCK,
+                    is ? 4 : 2, 0, is ? 3 : 2, 3);
+                runs("s0;s0;s0;s000;l0000,,0;i3,1," + t + ",0;i3,2,3,0;i4,2," + f + ",0;" + HALT, 3, 200, OVER, 4, 0, 3, 3);
+            }
+        }
+        // Those that were made ahead keep what they have.
+        for (int f = 0; f < 3; f++) {
+            runs("s000;l1000,,0;i3,1,0,0;i4,1," + f + ",0;i3,2,0,0;i5,3,1," + f + ";i0,0,3,0;" + HALT, 3, 200, OVER, 6, 0, 5,
+                3);
+            runs("s0;s0;s0;s000;l1500,,0;i3,2,0,0;i5,0,1," + f + ";" + HALT, 3, 200, OVER, 3, 0, 2, 3);
+        }
         // The tuple that there is at first is another one.
         runs("s0;l0200,,0;i3,2,0,0;i5,0,1,0;i5,0,2,0;", 3, 200, STUCK, 2, 0, 2, 3);
         // A tuple made once more has nothing set, though a former one had.
@@ -162,6 +178,14 @@ public final class RunBoundsTest {
         runs(text, 0, 200, OVER, 2, 0, 1, 0);
         runs(text, 1, 200, OVER, 2, 1, 0, 1);
         runs(text, 99, 200, OVER, 2, 1, 0, 99);
+        // Register a alone is 0, or alone is not, whatever l is.
+        for (int r = 0; r < 4; r++) {
+            for (int l = 1; l < 4; l++) {
+                String labels = HALT + BLOCK + HALT + BLOCK + HALT + BLOCK + HALT;
+                runs("l1111,,1;i1," + r + ",0,0;i10," + r + "," + l + ",0;" + labels, 5, 200, OVER, 3, 0, 2, r == 0 ? 0 : 5);
+                runs("l1111,,1;i1," + r + ",7,0;i10," + r + "," + l + ",0;" + labels, 0, 200, OVER, 3, l, 0, r == 0 ? 7 : 0);
+            }
+        }
         // 0 reached by ADD modulo 10000 is 0, too: 5000 and 5000.
         String tenfold = "i2,0,0,0;i0,1,0,0;i2,0,0,0;i2,0,0,0;i2,0,1,0;";
         runs("l0000,,0;" + tenfold + "i9,1,0,0;l0000,,1;" + tenfold + "i9,2,0,0;l0000,,1;i2,0,0,0;i10,0,0,0;" + HALT, 50, 200,
@@ -222,6 +246,22 @@ public final class RunBoundsTest {
                 runs("s0;l" + new String(row) + ",,0;i12," + r + ",0,0;l0000,,1;i9,1,0,0;", 3, 9, is ? GOES : STUCK,
                     is ? 9 : 0, is ? 1 : 0, 0, word);
             }
+        }
+    }
+
+    private static void labelOfEach() {
+        DUE.part("REGISTERS hold LABELS: LABEL d, l, and BACK to it");
+        for (int l = 0; l < 4; l++) {
+            for (int d = 0; d < 4; d++) {
+                // Each other block sets a word of its own; block 0 comes round again.
+                StringBuilder text = new StringBuilder("l0000,,0;i8," + d + "," + l + ",0;i12," + d + ",0,0;");
+                for (int m = 1; m < 4; m++) {
+                    text.append("l0000,,0;i1,0,").append(m).append(",0;").append(HALT);
+                }
+                runs(text.toString(), 9, 4, l == 0 ? GOES : OVER, 4, l, l == 0 ? 0 : 1, l > 0 ? l : d == 0 ? NONE : 9);
+            }
+            runs("l0000,,0;i8,0," + l + ",0;" + HALT + BLOCK + BLOCK + BLOCK, 9, 200, STUCK, 1, 0, 1, NONE);
+            runs("l0000,,0;i8,1," + l + ",0;i10,1,0,0;" + BLOCK + BLOCK + BLOCK, 9, 200, STUCK, 1, 0, 1, 9);
         }
     }
 

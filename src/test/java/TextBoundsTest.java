@@ -14,6 +14,7 @@ public final class TextBoundsTest {
         whichLetters();
         badAheadOfFull();
         wiped();
+        wipedIsGone();
         wipedWhenFull();
         wipeLeavesTheRest();
         faultOfNothing();
@@ -141,11 +142,19 @@ public final class TextBoundsTest {
         DUE.due("wipe() of four", x.wipe(), 4);
         DUE.due("fault() behind it", x.fault(), NONE);
         DUE.due("lay() behind it", x.lay(), NO);
-        // What was wiped is not read as the rest of a shorter text.
-        Due.retell(x, "l1111,,0;");
-        x.wipe();
-        x.write('l');
-        DUE.due("fault() of a shorter text", x.fault(), 0);
+    }
+
+    private static void wipedIsGone() {
+        DUE.part("3: THE TEXT is empty (what was wiped is not the rest of a shorter text)");
+        for (String item : new String[] {"s00;", "l0000,111,0;", "i11,0,0,0;"}) {
+            TypedBlocks x = new TypedBlocks();
+            for (int letters = 1; letters < item.length(); letters++) {
+                Due.retell(x, BLOCK + item);
+                DUE.due("fault() of " + item, x.fault(), NONE);
+                Due.retell(x, BLOCK + item.substring(0, letters));
+                DUE.due("fault() of its first " + letters, x.fault(), 9);
+            }
+        }
     }
 
     private static void wipedWhenFull() {
