@@ -18,6 +18,7 @@ public final class ActBoundsTest {
         refusedPut();
         placesOfAdd();
         theOthersStay();
+        theOtherBlocksStay();
         sixAtMost();
         refusedAdd();
         badAheadOfFull();
@@ -220,6 +221,36 @@ public final class ActBoundsTest {
             for (int i = 0; i < 5; i++) {
                 codeIs(y, 0, i, SIX[i < k ? i : i + 1]);
             }
+        }
+    }
+
+    private static void theOtherBlocksStay() {
+        DUE.part("10, 11: PUT IN, TAKEN OUT (of one block; what the others want and have stays)");
+        String other = "l1678,678,1;i4,1,2,3;";
+        for (int k = 0; k <= 5; k++) {
+            int at = k;
+            Twins.Call[] acts = {x -> x.cut(1, at), x -> x.put(1, at, 1, 3, 99, 0), x -> x.cut(1, 5 - at)};
+            TypedBlocks x = Due.laid(other + told(6) + other);
+            for (Twins.Call act : acts) {
+                act.on(x);
+                othersAre(x);
+            }
+            while (x.label(1, 9) < 6) {
+                x.add(1, Math.min(at, x.label(1, 9)), 4, 3, 2, 1);
+                othersAre(x);
+            }
+            DUE.due("add to six", x.add(1, at, 4, 3, 2, 1), FULL);
+            othersAre(x);
+        }
+    }
+
+    private static void othersAre(TypedBlocks x) {
+        int[] due = {1, 6, 7, 8, 3, 6, 7, 8, 1, 1};
+        for (int l = 0; l <= 2; l += 2) {
+            for (int what = 0; what < 10; what++) {
+                DUE.due("label(" + l + ", " + what + ")", x.label(l, what), due[what]);
+            }
+            codeIs(x, l, 0, 4, 1, 2, 3);
         }
     }
 

@@ -169,6 +169,9 @@ public final class EnoughBoundsTest {
             String text = first + "i8,0,2,0;i10,1,1,0;" + HALT + "l9111,,0;" + HALT + "l6111,,0;l7111,,0;";
             refused(text, 1, 6);
         }
+        // It is what the labels want that counts, whatever is in their blocks.
+        sure("l9000,,1;i8,0,2,0;i9,0,0,0;l0000,,1;" + "i4,0,0,3;".repeat(6) + "l0000,,1;l0000,,1;");
+        sure("l9000,,1;i8,0,2,0;i9,0,0,0;l0000,,1;l0000,,1;" + "i4,0,0,3;".repeat(6) + "l0000,,1;");
         // One level of it is enough: code of 1 for code of 0, both wanting the same.
         sure("l1111,,0;i8,0,1,0;i9,2,0,0;l1111,,0;" + HALT + "l6111,,0;" + HALT);
         // Code of 3, that wants code of 1, where code of 2 is wanted, that wants code of 0.

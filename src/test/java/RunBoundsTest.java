@@ -16,6 +16,7 @@ public final class RunBoundsTest {
         oneOfEachSort();
         stackToBeginWith();
         addModulo();
+        wordZero();
         newWithoutFields();
         ifNotZero();
         stuckForWantOfAWord();
@@ -140,6 +141,13 @@ public final class RunBoundsTest {
         runs(begin + "i1,1,1,0;i2,0,1,0;" + HALT, 99, 200, OVER, 16, 2, 3, 0);
         runs(begin + "i2,0,0,0;" + HALT, 99, 200, OVER, 15, 2, 2, 9998);
         runs(begin + "i1,1,0,0;i2,0,1,0;" + HALT, 99, 200, OVER, 16, 2, 3, 9999);
+    }
+
+    private static void wordZero() {
+        DUE.part("WORDS (0 to 9999): 0 is a WORD, in a FIELD and on the STACK, too");
+        runs("s0;l0200,,0;i5,0,1,0;" + HALT, 0, 200, OVER, 2, 0, 1, 0);
+        runs("s0;l0000,,0;i3,1,0,0;i4,1,0,2;i1,0,5,0;i5,0,1,0;" + HALT, 0, 200, OVER, 5, 0, 4, 0);
+        runs("l0000,,0;i6,1,0,0;i1,0,5,0;i7,0,0,0;i2,0,1,0;" + HALT, 0, 200, OVER, 5, 0, 4, 0);
     }
 
     private static void newWithoutFields() {
