@@ -229,6 +229,12 @@ public final class AskBoundsTest {
         TypedBlocks jump = Due.laid("s0;" + BLOCK + HALT + "l1001,,1;i9,0,0,0;");
         DUE.due("might(0, 3)", jump.might(0, 3), 3);
         DUE.due("might(1, 3)", jump.might(1, 3), 3 | 4 | 3 << 6);
+        // Block 0 jumps to label 1, that wants code of label 3, with code of label 2: which stands for which
+        // hangs on what is wanted, too.
+        String words = "l1111,,0;" + HALT;
+        TypedBlocks code = Due.laid("l1111,,0;i8,0,2,0;i9,1,0,0;l9111,,0;" + SET + HALT + words + words);
+        DUE.due("might(2, 1)", code.might(2, 1), 3);
+        DUE.due("might(3, 1)", code.might(3, 1), 2);
     }
 
     private static void reachedFromLabel0() {

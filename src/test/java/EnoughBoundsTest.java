@@ -168,6 +168,8 @@ public final class EnoughBoundsTest {
             String first = outer == 0 ? "l9111,,0;" : "l0111,,0;";
             String text = first + "i8,0,2,0;i10,1,1,0;" + HALT + "l9111,,0;" + HALT + "l6111,,0;l7111,,0;";
             refused(text, 1, 6);
+            refused(text.replace("l6111,,0;l7111,,0;", "l1111,6,0;l1111,7,0;"), 1, 6);
+            refused(text.replace("l6111,,0;l7111,,0;", "l1111,116,1;l1111,117,1;"), 1, 6);
         }
         // It is what the labels want that counts, whatever is in their blocks.
         sure("l9000,,1;i8,0,2,0;i9,0,0,0;l0000,,1;" + "i4,0,0,3;".repeat(6) + "l0000,,1;l0000,,1;");
@@ -197,8 +199,10 @@ public final class EnoughBoundsTest {
                     int hasBelow = below & 1;
                     int wantsBelow = below >> 1;
                     boolean enough = wantsBelow == 1 ? has >= wants : has == wants && hasBelow == 0;
-                    refused("l1111," + row(told, -1, 0, 1) + "," + hasBelow + ";" + PUSH.repeat(pushed) + JUMP + "l1111,"
-                        + row(wants, -1, 0, 1) + "," + wantsBelow + ";" + HALT, pushed, enough ? 0 : 7);
+                    for (int type = 0; type < 2; type++) {
+                        refused("l1111," + row(told, -1, 0, 1) + "," + hasBelow + ";" + PUSH.repeat(pushed) + JUMP
+                            + "l1111," + row(wants, -1, 0, type) + "," + wantsBelow + ";" + HALT, pushed, enough ? 0 : 7);
+                    }
                 }
             }
         }

@@ -15,17 +15,17 @@ public final class FaceTest {
     private static final Set<String> METHODS = Set.of("write 1", "wipe 0", "fault 0", "lay 0", "sort 2", "label 2",
         "code 3", "put 6", "add 6", "cut 2", "want 3", "below 2", "undo 0", "check 1", "reason 1", "ahead 3", "sure 0",
         "joins 1", "might 2", "reached 0", "mends 2", "run 3", "day 3", "keep 0", "back 0", "count 1");
-    private static final Set<String> CONSTANTS = Set.of("BAD", "NO", "FULL", "NONE");
+    private static final Set<String> CONSTANTS = Set.of("BAD -1", "NO -2", "FULL -3", "NONE -4");
     private static final Due DUE = new Due();
 
-    public static void main(String[] args) throws IOException {
+    public static void main(String[] args) throws IOException, ReflectiveOperationException {
         face();
         inside();
         source(args.length > 0 ? args[0] : "src/main/java/TypedBlocks.java");
         DUE.finish();
     }
 
-    private static void face() {
+    private static void face() throws ReflectiveOperationException {
         DUE.part("face");
         Class<?> c = TypedBlocks.class;
         DUE.holds("public and final", Modifier.isPublic(c.getModifiers()) && Modifier.isFinal(c.getModifiers()));
@@ -44,7 +44,10 @@ public final class FaceTest {
         Set<String> constants = new TreeSet<>();
         for (Field f : c.getDeclaredFields()) {
             if (!Modifier.isPrivate(f.getModifiers())) {
-                constants.add(f.getName());
+                int is = f.getModifiers();
+                DUE.holds(f + " is a public constant", Modifier.isPublic(is) && Modifier.isStatic(is) && Modifier.isFinal(is)
+                    && f.getType() == int.class);
+                constants.add(f.getName() + " " + f.get(null));
             }
         }
         DUE.holds("constants " + constants, constants.equals(CONSTANTS));
@@ -97,6 +100,7 @@ public final class FaceTest {
             DUE.holds("no " + word, !m.find());
         }
         DUE.holds("no lambda, no reference to a method", !text.contains("->") && !text.contains("::"));
+        saysWhichCalls(whole);
         DUE.holds("signs 1 to 127 alone", whole.chars().allMatch(ch -> ch > 0 && ch < 128));
         int start = 0;
         String[] lines = whole.split("\n");
@@ -106,6 +110,20 @@ public final class FaceTest {
             } else if (lines[i].matches(" {4}( {4})?\\}")) {
                 DUE.holds("short: " + lines[start].trim(), i - start < 60 || lines[i].equals("    }"));
             }
+        }
+    }
+
+    /** What the interface says ahead of its calls, and the calls in the document's order. */
+    private static void saysWhichCalls(String source) {
+        String[] order = {"// ---- programs", "write", "wipe", "fault", "lay", "sort", "label", "code",
+            "// ---- acts", "put", "add", "cut", "want", "below", "undo",
+            "// ---- checked", "check", "reason", "ahead", "sure", "joins", "might", "reached", "mends",
+            "// ---- run, days", "run", "day", "keep", "back", "count"};
+        int at = 0;
+        for (String said : order) {
+            int next = source.indexOf(said.startsWith("/") ? said + "\n" : "public int " + said + "(", at);
+            DUE.holds(said + " in its place", next >= at);
+            at = Math.max(at, next);
         }
     }
 }

@@ -243,7 +243,11 @@ public final class LayBoundsTest {
 
     private static void whatOfAnInstruction() {
         DUE.part("8: C (what = 0), X, Y, Z (1 to 3); BAD");
-        TypedBlocks x = Due.laid(BLOCK + "i4,1,2,3;i5,3,2,1;");
+        TypedBlocks x = Due.laid(BLOCK + "i4,1,2,3;i5,3,2,1;" + BLOCK + "i4,3,2,1;");
+        int[] other = {4, 3, 2, 1};
+        for (int what = 0; what < 4; what++) {
+            DUE.due("code(1, 0, " + what + ")", x.code(1, 0, what), other[what]);
+        }
         int[][] due = {{4, 1, 2, 3}, {5, 3, 2, 1}};
         for (int k = 0; k < 2; k++) {
             for (int what = 0; what < 4; what++) {

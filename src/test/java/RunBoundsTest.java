@@ -357,6 +357,11 @@ public final class RunBoundsTest {
         }
         runs(BLOCK, 3, 0, GOES, 0, 0, 0, 3);
         runs(BLOCK, 3, 1, STUCK, 0, 0, 0, 3);
+        // The 21-st step brings the 16-th thing on the stack; the one behind it is none, and up to n = 21 not tried.
+        String pushes = BLOCK + "i6,0,0,0;i6,0,0,0;i6,0,0,0;i9,0,0,0;";
+        for (int n = 20; n <= 24; n++) {
+            runs(pushes, 3, n, n <= 21 ? GOES : NO_ROOM, Math.min(n, 21), 0, Math.min(n, 21) % 4, 3);
+        }
     }
 
     private static void atWhichLabelAndInstruction() {

@@ -226,6 +226,11 @@ public final class TextBoundsTest {
         fault(";", 0);
         fault("s0;;", 3);
         fault("s0;,s0;", 3);
+        fault(";s0;", 0);
+        for (char between = 32; between <= 126; between++) {
+            fault("s0;" + between + "s0;", 3);
+            fault("s0;" + between + BLOCK, 3);
+        }
     }
 
     private static void lettersOfItems() {
@@ -255,6 +260,10 @@ public final class TextBoundsTest {
             item(BLOCK, item, true);
         }
         item(BLOCK, "i6,0,0,0,0;", false);
+        // Behind two figures a number is at its end, but the , must be there.
+        item(BLOCK, "i060,0,0;", false);
+        item(BLOCK, "i6,000,0;", false);
+        item(BLOCK, "i6,0,000;", false);
         item(BLOCK, "l0000,0,0,0;", false);
         item(BLOCK, "s0,0;", false);
         item(BLOCK, "s,0;", false);
@@ -290,6 +299,8 @@ public final class TextBoundsTest {
         item("", "s0/;", false);
         item("", "s0:;", false);
         item("", "s0 0;", false);
+        item("", "s 00;", false);
+        item("", "s00 ;", false);
     }
 
     private static void fieldsToldAhead() {
@@ -333,6 +344,9 @@ public final class TextBoundsTest {
         item("", "l0000,,0;", true);
         item("", "l00000,,0;", false);
         item("", "l00 0,,0;", false);
+        item("", "l00 00,,0;", false);
+        item("", "l 0000,,0;", false);
+        item("", "l0000 ,,0;", false);
         item("", "l000/,,0;", false);
         item("", "l000:,,0;", false);
         TypedBlocks x = Due.laid("s0;l0126,,0;");
@@ -352,6 +366,9 @@ public final class TextBoundsTest {
         item("", "l0000,/,0;", false);
         item("", "l0000,0:,0;", false);
         item("", "l0000, ,0;", false);
+        item("", "l0000,0 0,0;", false);
+        item("", "l0000, 00,0;", false);
+        item("", "l0000,00 ,0;", false);
         for (int height = 0; height <= 3; height++) {
             DUE.due("label(0, 4)", Due.laid("l0000," + "000".substring(3 - height) + ",0;").label(0, 4), height);
         }
